@@ -23,6 +23,14 @@ final class Check {
         due(call, got ? 1 : 0, want ? 1 : 0);
     }
 
+    static void due(String call, String got, String want) {
+        asked++;
+        if (!got.equals(want)) {
+            wrong++;
+            System.out.println(call + " answered " + got + ", due is " + want);
+        }
+    }
+
     /** The exception's own class is asked for: one below it is the machine's, and never due. */
     static void refused(String call, Class<? extends RuntimeException> want, Runnable run) {
         asked++;
