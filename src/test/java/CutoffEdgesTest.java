@@ -62,6 +62,16 @@ final class CutoffEdgesTest {
             cutoff 0 11 = 1
             told 1 2 ! NoSuchElementException
             """);
+        Rows.hold("with due times at or before it: an order's own, not its wave's", """
+            new 100
+            hour 0 0 20
+            order {11 12 10 9} 0 15
+            plan = 30
+            told 1 3 = 9
+            cutoff 0 10 = 2
+            wave {0..3} = {1 1 -1 -1}
+            told 1 {2 3} = {2 11}
+            """);
         Rows.hold("with due times at or before it: as they are now", """
             new 100
             order {5 5} 0 10

@@ -81,6 +81,18 @@ final class HourEdgesTest {
             plan = 0
             wave {0..3} = {1 2 3 4}
             """);
+        Rows.hold("at most 10 in all: the ten stay as they are when one more is refused", """
+            new 15
+            hour 0 2 3
+            8 x hour 1 0 0
+            hour 0 5 6 = 2
+            hour {0 1 2 3} {7 5 5 0} {8 6 6 100000} ! UnsupportedOperationException
+            order {1 2 3 4 5 6 7 8} 0 15
+            order {0 5} 0 15
+            carrier {8 9} 1
+            plan = 0
+            wave {0..9} = {0 2 3 0 4 5 0 0 1 0}
+            """);
         Rows.hold("REFUSALS, the first that holds: a number outside its range, then no room", """
             new 100
             10 x hour 0 0 9

@@ -176,6 +176,29 @@ final class JoinEdgesTest {
             wave {0..3} = 2
             told 2 {0..6} = {95 25 4 1 0 0 0}
             """);
+        Rows.hold("the seconds it has: the savings are those of the orders as they stand now", """
+            new 1000
+            hour 0 0 9
+            order {1 2} {0 2} 50
+            plan = 0
+            order 3 1 50
+            plan = 0
+            join 1 2 = 145             -- 0 and 2 save nothing, 1 saves 5 behind them
+            new 1000
+            hour 0 0 9
+            order {1 2} {0 2} 50
+            plan = 0
+            order 3 1 50
+            plan = 0
+            join 2 1 = 140             -- 0 and 2 save 5 each behind 1
+            """);
+        Rows.hold("become one: the number of the second is not given again", "new 1000\n" + TWO_WAVES + """
+            join 1 2 = 60
+            order 5 3 30
+            plan = 0
+            wave {0 1 2} = {1 1 3}
+            told 2 0 ! NoSuchElementException
+            """);
         StringBuilder sixteen = new StringBuilder("new 10\nhour 0 0 9\n" + "order 5 0 10\nplan = 0\n".repeat(16));
         for (int wave = 15; wave >= 1; wave--) {
             sixteen.append("join 16 ").append(wave).append(" = 10\n");

@@ -122,6 +122,22 @@ final class PlanEdgesTest {
             told 15 {0..6} = {15 0 1 3 0 0 0}
             told 16 {0..6} = {15 0 1 20 0 0 0}
             """);
+        Rows.hold("and nothing is planned: the first order, the last one and the savings of a wave of two", """
+            new 20
+            hour 0 0 20
+            14 x order 5 0 16
+            plan = 0
+            change {0 1} 21 = true
+            change {0 1} {1 9} = false
+            order {2 10} 0 {4 20}
+            plan ! UnsupportedOperationException
+            wave {0 1 14 15} = 0
+            count {1 2 5} = {12 4 0}
+            told {1 2 15 16 17} 0 ! NoSuchElementException
+            cutoff 0 9 = 15
+            plan = 0
+            wave 15 = 15
+            """);
         Rows.hold("and nothing is planned: waves of other carriers with savings, then fewer are", """
             new 100
             hour {0 1} 0 9
