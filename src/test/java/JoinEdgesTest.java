@@ -199,6 +199,24 @@ final class JoinEdgesTest {
             wave {0 1 2} = {1 1 3}
             told 2 0 ! NoSuchElementException
             """);
+        Rows.hold("Two waves become one: orders of a third, free ones and those that left the second stay where they are", """
+            new 1000
+            hour 0 0 9
+            order 5 0 30
+            plan = 0
+            order 5 3 30
+            plan = 0
+            order {5 6 7} 5 30
+            plan = 20
+            order 10 0 30
+            change 4 10 = true
+            cutoff 0 4 = 0
+            join 2 3 = 80
+            wave {0..5} = {1 2 2 2 0 0}
+            told {1 2} 2 = {1 3}
+            change 0 10 = true
+            wave {0..5} = {0 2 2 2 0 0}
+            """);
         StringBuilder sixteen = new StringBuilder("new 10\nhour 0 0 9\n" + "order 5 0 10\nplan = 0\n".repeat(16));
         for (int wave = 15; wave >= 1; wave--) {
             sixteen.append("join 16 ").append(wave).append(" = 10\n");

@@ -21,12 +21,13 @@ final class Rows {
     private static final Set<String> ASKING = Set.of("wave", "told", "member", "replenish", "lacks", "late", "count");
 
     private record Row(String text, String name, int[] numbers, String want, boolean refused) {
-        boolean isAsking() {
-            return ASKING.contains(name);
+        /** Refused by an exception, or by a release's answer that something is missing. */
+        boolean isTurnedDown() {
+            return refused || name.equals("release") && !want.equals("0");
         }
 
         boolean changesNothing() {
-            return refused || isAsking() || name.equals("release") && !want.equals("0");
+            return isTurnedDown() || ASKING.contains(name);
         }
     }
 
@@ -104,7 +105,7 @@ final class Rows {
             checkAnswers(sentence, capacity, rows);
             for (int i = 0; i < rows.size(); i++) {
                 boolean last = i == rows.size() - 1;
-                if (last || rows.get(i).changesNothing() && !rows.get(i).isAsking()) {
+                if (last || rows.get(i).isTurnedDown()) {
                     checkNothingChanged(sentence + ", new " + capacity + ", behind " + rows.get(i).text(), capacity, rows.subList(0, i + 1));
                 }
             }
