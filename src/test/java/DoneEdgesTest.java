@@ -151,6 +151,18 @@ final class DoneEdgesTest {
             stock 0 4
             lacks 1 {0 1} = {1 0}
             """);
+        Rows.hold("finished work is kept: what a wave saves by lines of the same good is saved still", """
+            new 100
+            hour 0 0 9
+            2 x order 5 0 30
+            line {0 1} {4 4} {1 2}
+            stock 4 3
+            plan = 13
+            release 1 = 0
+            done {0 1} = {1 0}
+            told 1 {0 1} = {47 13}
+            count 5 = 13
+            """);
         Rows.hold("finished work is kept: cut-offs, other due times and plannings leave it", """
             new 100
             hour 0 0 9

@@ -72,6 +72,18 @@ final class MemberEdgesTest {
             change 2 0 = false
             member 1 {0 1 2} = {0 1 2}
             """);
+        Rows.hold("as they came into it: released and done ones, too", """
+            new 65536
+            hour 0 0 9
+            order {4 3 2 1} 0 10
+            plan = 30
+            release 1 = 0
+            done {1 3} = {3 2}
+            member 1 {0..3} = {3 2 1 0}
+            done {0 2} = {1 0}
+            member 1 {0..3} = {3 2 1 0}
+            member 1 4 ! NoSuchElementException
+            """);
         Rows.hold("as they came into it: the second one's orders behind the first one's", """
             new 65536
             hour 0 0 9
